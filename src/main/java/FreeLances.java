@@ -1866,9 +1866,8 @@ public final class FreeLances {
         /** Fills winterBest; there are at least as many TOWNS as COMPANIES. */
         int winterCost(World world) {
             for (int taken = (1 << world.townCount) - 1; taken >= 0; taken--) {
-                int company = Integer.bitCount(taken);
                 winterBest[taken] = 0;
-                if (company < world.companyCount) {
+                if (Integer.bitCount(taken) < world.companyCount) {
                     winterBest[taken] = winterNext(world, taken, winterChoice(world, taken));
                 }
             }
@@ -1888,14 +1887,16 @@ public final class FreeLances {
 
         /** The least of the best TOWNS for the next COMPANY; one is left, as COMPANIES are no more than TOWNS. */
         private int winterChoice(World world, int taken) {
-            int choice = -1;
+            int choice = 0;
+            int least = Integer.MAX_VALUE;
             for (int town = 0; town < world.townCount; town++) {
-                boolean left = (taken >> town & 1) == 0;
-                if (left && (choice < 0 || winterNext(world, taken, town) < winterNext(world, taken, choice))) {
-                    choice = town;
+                if ((taken >> town & 1) == 0) {
+                    int cost = winterNext(world, taken, town);
+                    choice = cost < least ? town : choice;
+                    least = Math.min(least, cost);
                 }
             }
-            return Math.max(0, choice);
+            return choice;
         }
 
         private int winterNext(World world, int taken, int town) {

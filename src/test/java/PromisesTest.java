@@ -43,6 +43,10 @@ public final class PromisesTest {
         judging();
         counting();
         findings();
+        edgesOfBonds();
+        edgesOfLances();
+        edgesOfPlans();
+        edgesOfRestoring();
         System.out.println(wrong == 0 ? asked + " answers are as due" : wrong + " answers are not as due");
         if (wrong != 0) {
             System.exit(1);
@@ -1645,5 +1649,199 @@ public final class PromisesTest {
         law(x, 0, 0, "h");
         due(x.says(0, BEYOND, 0, 0), BEYOND);
         due(x.found(1), 3);
+    }
+
+    private static void edgesOfBonds() {
+        promise(21);
+        FreeLances x = land(2, 2);
+        x.contract(0, 0, 0, 1);
+        due(x.renew(0, 401, 0), BEYOND);
+        due(x.renew(0, 400, 0), 1);
+        due(x.bondIs(1, 2), 1);
+        due(x.bondIs(1, 3), 400);
+        promise(32);
+        due(x.free(0, false), 401);
+        due(x.free(1, false), 0);
+        x.contract(1, 0, 0, 1);
+        due(x.free(1, false), 1);
+        due(x.free(1, true), 31);
+        promise(31);
+        // On day 0, and against TOWN 0.
+        x = land(2, 2);
+        x.contract(110, 0, 5, 1);
+        x.safe(0, 0, 0, 0, 1);
+        due(x.clash(0, 1), 1);
+        due(x.clash(0, 2), 0);
+        due(x.count(12), 1);
+        x = land(2, 2);
+        x.contract(1, 0, 9, 1);
+        x.contract(110, 0, 5, 1);
+        x.truce(0, 1, 0, 5);
+        x.contract(1, 3, 9, 1);
+        due(x.count(12), 1);
+        due(x.clash(0, 0), 1);
+        due(x.clash(0, 1), 2);
+        due(x.clash(0, 2), 0);
+        promise(29);
+        x = new FreeLances();
+        x.town(0, 9999);
+        x.company(0, 10, 0);
+        x.contract(0, 0, 100, 10);
+        law(x, 1, 0, "p");
+        x.days(30);
+        due(x.bondIs(0, 8), 30);
+        x.buy(0, 10);
+        due(x.pay(0, 10), 0);
+        due(x.bondIs(0, 8), -1);
+        due(x.about(0, 1), 10);
+        promise(22);
+        // What is left of an ADVANCE stays for later MONTHS.
+        x.buy(0, 10);
+        due(x.advance(0, 10), 1);
+        law(x, 1, 0, "4");
+        x.days(30);
+        due(x.bondIs(0, 9), 6);
+        due(x.bondIs(0, 7), 0);
+        x.days(30);
+        due(x.bondIs(0, 9), 2);
+    }
+
+    private static void edgesOfLances() {
+        promise(25);
+        FreeLances x = land(2, 0);
+        x.company(1, 5, 0);
+        x.lance(0, 1, 100);
+        due(x.take(0, 0), 1);
+        due(x.lanceIs(0, 4), 0);
+        due(x.ransom(0, 5), 0);
+        due(x.townIs(0, 0), 1005);
+        promise(33);
+        fill(x, 3, 8, 1, 2, 3, 4, 5, 6, 7, 8, 9, 10, 11, 12);
+        due(x.muster(0, 3), 1);
+        x.company(1, 0, 0);
+        due(x.muster(1, 3), 0);
+        promise(35);
+        due(x.shown(0), 1);
+        due(x.shown(11), 12);
+        due(x.shown(12), NONE);
+        promise(44);
+        x = land(1, 2);
+        due(x.ahead(0, 2, 1), 100);
+        due(x.ahead(0, 3, 1), 0);
+        promise(36);
+        x.wall(0, 10, 10);
+        due(x.hold(0, 0, 10, false), 2);
+        x.wall(0, 10, 9);
+        due(x.hold(0, 0, 10, false), 1);
+        promise(43);
+        x = new FreeLances();
+        x.town(0, 0);
+        x.company(0, 0, 0);
+        x.lance(0, 1, 100);
+        x.days(3);
+        due(x.about(0, 5), 1);
+        x.harvest(0, 1);
+        x.days(1);
+        due(x.about(0, 4), 1);
+        promise(14);
+        // Nothing is OWED, so no CONTRACT lets them leave; then 1 is.
+        x.company(0, 0, 0);
+        x.contract(0, 0, 100, 1);
+        law(x, 2, 0, "1");
+        x.harvest(0, 100);
+        due(x.over(0, 1), STATE);
+        law(x, 1, 0, "1");
+        x.days(26);
+        due(x.bondIs(0, 7), 1);
+        due(x.over(0, 1), 0);
+    }
+
+    private static void edgesOfPlans() {
+        promise(42);
+        FreeLances x = land(1, 5);
+        for (int c = 0; c < 5; c++) {
+            for (int i = 0; i <= c; i++) {
+                x.lance(c, i, 100);
+            }
+        }
+        // So many LANCES as COMPANY 0, 4, 2 has, at a price at which no more are kept.
+        fill(x, 0, 32, 1, 999, 20, 5, 999, 20, 3, 999, 20);
+        due(x.hiring(0, -1), 30 + 110 + 70);
+        due(x.hiring(0, 0), 0);
+        due(x.hiring(0, 1), 4);
+        due(x.hiring(0, 2), 2);
+        // Free LANCES: the greatest from the first SEASON on saves the 10 of another one.
+        fill(x, 0, 32, 1, 999, 0, 5, 999, 0, 3, 999, 0);
+        due(x.hiring(0, -1), 10);
+        due(x.hiring(0, 0), 4);
+        due(x.hiring(0, 2), 4);
+        promise(41);
+        x = land(8, 5);
+        for (int c = 0; c < 5; c++) {
+            for (int t = 0; t < 8; t++) {
+                x.winter(c, t, t == 7 - c ? 1 : 5);
+            }
+        }
+        due(x.wintering(-1), 5);
+        for (int c = 0; c < 5; c++) {
+            due(x.wintering(c), 7 - c);
+        }
+        promise(47);
+        due(x.sheet(3, 32, 24), 1);
+        x.put(3, 0, 5);
+        due(x.parts(9, 3, 0), 9);
+        due(x.sheet(3, 32, 24), 1);
+        due(x.parts(9, 3, 0), KIND);
+    }
+
+    private static void edgesOfRestoring() {
+        promise(51);
+        FreeLances x = land(1, 1);
+        law(x, 0, 0, "1");
+        law(x, 1, 0, "2");
+        x.image();
+        x = restoredWithOthers(x);
+        due(x.says(0, 0, 0, 0), 1);
+        due(x.says(1, 0, 0, 0), 2);
+        due(x.says(2, 0, 0, 0), BEYOND);
+        // COMPANY 1 comes anew, without what an older COMPANY 1 had.
+        due(x.company(0, 7, 7), 1);
+        int[] fresh = {0, 7, 7, 0, 0, 0, -1, -1, -1};
+        for (int what = 0; what < fresh.length; what++) {
+            due(x.about(1, what), fresh[what]);
+        }
+        due(x.winter(1, 0, 0), 0);
+        fill(x, 0, 8, -1);
+        due(x.muster(1, 0), 0);
+        due(x.twice(3, 0, 1), 0);
+        due(x.lance(1, 1, 100), 0);
+        due(x.lanceIs(0, 4), -1);
+        due(x.contract(0, 0, 1, 1), 0);
+        due(x.bondIs(0, 7), 0);
+        due(x.renew(0, 1, 0), 1);
+        due(x.town(3, 3), 1);
+        due(x.townIs(1, 2), 100);
+        due(x.far(0, 1), NONE);
+    }
+
+    private static FreeLances restoredWithOthers(FreeLances x) {
+        x.town(0, 0);
+        x.road(0, 1, 1);
+        x.wall(1, 5, 5);
+        x.company(0, 0, 0);
+        x.winter(1, 0, 9);
+        x.lance(1, 3, 100);
+        fill(x, 0, 8, 3);
+        x.muster(0, 0);
+        x.muster(1, 0);
+        x.take(1, 0);
+        x.contract(0, 0, 100, 1);
+        x.renew(0, 1, 1);
+        law(x, 0, 0, "3");
+        x.days(30);
+        x.restore();
+        law(x, 0, 0, "4");
+        x.restore();
+        return x;
     }
 }
