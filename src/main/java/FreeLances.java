@@ -35,6 +35,9 @@ public final class FreeLances {
     // Far above the longest way (16 roads of 9 days), and low enough that two of them and a road still add up.
     private static final int NO_WAY = 1000000;
 
+    // Far above what any plan can cost.
+    private static final int NO_COST = 1000000000;
+
     private static final int FIT = 0;
     private static final int SICK = 1;
     private static final int AWAY = 2;
@@ -1888,7 +1891,7 @@ public final class FreeLances {
         /** The least of the best TOWNS for the next COMPANY; one is left, as COMPANIES are no more than TOWNS. */
         private int winterChoice(World world, int taken) {
             int choice = 0;
-            int least = Integer.MAX_VALUE;
+            int least = NO_COST;
             for (int town = 0; town < world.townCount; town++) {
                 if ((taken >> town & 1) == 0) {
                     int cost = winterNext(world, taken, town);
