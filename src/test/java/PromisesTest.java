@@ -2,19 +2,7 @@
  * For each promise of the document its ordinary answers, its edges, wrong inputs, and the order in which its
  * findings are asked, worked out by hand.
  */
-public final class PromisesTest {
-    private static final int BEYOND = -1000001;
-    private static final int NONE = -1000002;
-    private static final int STATE = -1000003;
-    private static final int FULL = -1000004;
-    private static final int KIND = -1000005;
-    private static final int LEAST = Integer.MIN_VALUE;
-    private static final int GREATEST = Integer.MAX_VALUE;
-
-    private static int wrong = 0;
-    private static int asked = 0;
-    private static int promise = 0;
-
+public final class PromisesTest extends Edges {
     private PromisesTest() {
     }
 
@@ -47,60 +35,14 @@ public final class PromisesTest {
         edgesOfLances();
         edgesOfPlans();
         edgesOfRestoring();
-        System.out.println(wrong == 0 ? asked + " answers are as due" : wrong + " answers are not as due");
-        if (wrong != 0) {
+        System.out.println(wrong() == 0 ? asked() + " answers are as due" : wrong() + " answers are not as due");
+        if (wrong() != 0) {
             System.exit(1);
         }
     }
 
-    // ---- what the tests have in common
-
-    private static void due(long got, long want) {
-        asked++;
-        if (got != want) {
-            wrong++;
-            int line = StackWalker.getInstance().walk(all -> all.skip(1).findFirst().get().getLineNumber());
-            System.out.println("promise " + promise + ", line " + line + ": answered " + got + ", due is " + want);
-        }
-    }
-
     private static void promise(int number) {
-        promise = number;
-    }
-
-    private static void feed(FreeLances x, String text) {
-        for (int i = 0; i < text.length(); i += 8) {
-            int n = Math.min(8, text.length() - i);
-            long word = 0;
-            for (int j = 0; j < n; j++) {
-                word |= (text.charAt(i + j) & 255L) << 8 * j;
-            }
-            x.feed(word, n);
-        }
-    }
-
-    private static int law(FreeLances x, int use, int from, String text) {
-        feed(x, text);
-        return x.statute(use, from);
-    }
-
-    private static void fill(FreeLances x, int sheet, int bits, int... numbers) {
-        x.sheet(sheet, bits, numbers.length);
-        for (int i = 0; i < numbers.length; i++) {
-            x.put(sheet, i, numbers[i]);
-        }
-    }
-
-    /** So many TOWNS with 1000 COIN and BREAD each, and COMPANIES in TOWN 0 with 100 COIN and no BREAD. */
-    private static FreeLances land(int towns, int companies) {
-        FreeLances x = new FreeLances();
-        for (int i = 0; i < towns; i++) {
-            x.town(1000, 1000);
-        }
-        for (int i = 0; i < companies; i++) {
-            x.company(0, 100, 0);
-        }
-        return x;
+        named("promise " + number);
     }
 
     // ---- the promises
