@@ -337,6 +337,16 @@ final class BondEdges extends Edges {
         due(x.ransom(0, 1), STATE);
     }
 
+    static void promise25_town0MayHoldIt() {
+        FreeLances x = land(2, 0);
+        x.company(1, 9, 0);
+        x.lance(0, 0, 100);
+        x.take(0, 0);
+        due(x.ransom(0, 9), 0);
+        due(x.bondIs(0, 4), 0);
+        due(x.townIs(0, 0), 1009);
+    }
+
     static void promise25_noneIfTheCompanyHasLess() {
         FreeLances x = held(50);
         due(x.ransom(0, 50), 0);

@@ -113,6 +113,42 @@ final class DayEdges extends Edges {
         }
     }
 
+    static void promise44_whoComesEatsThere() {
+        FreeLances x = new FreeLances();
+        x.town(0, 0);
+        x.town(0, 0);
+        x.town(0, 50);
+        x.road(0, 2, 3);
+        x.company(0, 0, 2);
+        x.lance(0, 0, 100);
+        x.march(0, 2);
+        due(x.ahead(1, 3, 0), 1);
+        due(x.ahead(2, 1, 2), 50);
+        due(x.ahead(3, 1, 2), 49);
+        due(x.ahead(10, 1, 2), 42);
+        due(x.ahead(10, 4, 0), 1);
+        due(x.about(0, 0), -1);
+    }
+
+    static void promise44_monthsAreByLawsAndAdvances() {
+        FreeLances x = new FreeLances();
+        x.town(30, 0);
+        x.company(0, 0, 0);
+        x.contract(0, 0, 3000, 7);
+        law(x, 1, 0, "p+3");
+        law(x, 1, 40, "p+5");
+        x.advance(0, 13);
+        due(x.ahead(29, 0, 0), 17);
+        due(x.ahead(30, 0, 0), 17);
+        due(x.ahead(30, 6, 0), 0);
+        // 10 of the 13 were taken off, then 3 of 12: 9 are paid, and 8 of the 12 behind that.
+        due(x.ahead(60, 0, 0), 8);
+        due(x.ahead(60, 2, 0), 22);
+        due(x.ahead(90, 0, 0), 0);
+        due(x.ahead(90, 6, 0), 4);
+        due(x.bondIs(0, 9), 13);
+    }
+
     static void promise44_nothingChanges() {
         unchanged(Edges::rich, x -> x.ahead(200, 6, 0));
         unchanged(Edges::rich, x -> x.ahead(200, 0, 0));

@@ -252,6 +252,20 @@ final class LanceEdges extends Edges {
         due(x.over(0, 1), 0);
     }
 
+    static void promise14_withAll24Contracts() {
+        FreeLances x = poor(2);
+        x.lance(0, 0, 100);
+        for (int i = 0; i < 24; i++) {
+            x.contract(0, 0, 3000, i);
+        }
+        law(x, 1, 0, "p=23");
+        x.days(30);
+        law(x, 2, 0, "o=2");
+        due(x.over(0, 1), STATE);
+        law(x, 2, 0, "o=1");
+        due(x.over(0, 1), 0);
+    }
+
     static void promise14_leaveIsThatOfTheDay() {
         FreeLances x = serving();
         law(x, 1, 0, "1");

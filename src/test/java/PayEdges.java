@@ -240,6 +240,7 @@ final class PayEdges extends Edges {
         due(free(5, 9, 9, false), 10);
         due(free(5, 9, 10, false), 10);
         due(free(5, 9, 11, false), 11);
+        due(free(0, 0, 0, false), 1);
     }
 
     static void promise32_daysWithoutAGapAreOne() {

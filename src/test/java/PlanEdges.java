@@ -259,6 +259,19 @@ final class PlanEdges extends Edges {
         }
     }
 
+    static void promise41_itDoesNotDependOnWhatWasAskedAhead() {
+        FreeLances x = land(3, 2);
+        x.image();
+        x.company(0, 0, 0);
+        for (int town = 0; town < 3; town++) {
+            x.winter(2, town, 500);
+        }
+        due(x.wintering(-1), 500);
+        x.restore();
+        due(x.wintering(-1), 0);
+        due(x.wintering(1), 1);
+    }
+
     // ---- promise 42: hiring
 
     static void promise42_theSheetIs0To3() {
@@ -326,6 +339,18 @@ final class PlanEdges extends Edges {
         fill(x, 3, 32, 1, 999, 1);
         due(x.hiring(3, -1), 11);
         due(x.hiring(3, 0), 1);
+    }
+
+    static void promise42_itDoesNotDependOnWhatWasAskedAhead() {
+        FreeLances x = rich();
+        fill(x, 3, 32, 9, 500, 1, 9, 500, 1, 9, 500, 1, 9, 500, 1, 9, 500, 1);
+        due(x.hiring(3, -1), 2500);
+        fill(x, 3, 32, 9, 70, 1);
+        due(x.hiring(3, -1), 70);
+        fill(x, 3, 32, 9, 70, 1, 2, 99, 1);
+        due(x.hiring(3, -1), 70 + 12);
+        due(x.hiring(3, 0), -1);
+        due(x.hiring(3, 1), 0);
     }
 
     static void promise42_withoutCompaniesNoneIsHired() {

@@ -450,6 +450,9 @@ final class PointEdges extends Edges {
         fault("!)", 1);
         fault("(1))", 3);
         fault("1+)+)", 2);
+        fault("<<", 0);
+        fault("<1", 0);
+        fault(")(", 0);
     }
 
     static void point3_thereAreNoBlanks() {
@@ -1097,6 +1100,53 @@ final class PointEdges extends Edges {
         due(truced(101, 0, 100).clash(0, 1), 1);
     }
 
+    static void point4_clash3IsOfATruceOfItsCompany() {
+        // COMPANIES 1 and 2 have a TRUCE, and COMPANY 1 serves the FOE: that is nothing to COMPANY 0.
+        FreeLances x = land(3, 3);
+        x.contract(20, 0, 100, 1);
+        x.truce(1, 2, 0, 100);
+        x.truce(2, 1, 0, 100);
+        x.contract(101, 0, 100, 1);
+        x.contract(102, 0, 100, 1);
+        due(x.count(12), 0);
+    }
+
+    static void point4_clash3IsOfEitherCompanyOfATruce() {
+        FreeLances x = land(3, 3);
+        x.contract(101, 0, 100, 1);
+        x.truce(1, 0, 10, 20);
+        x.contract(20, 15, 30, 1);
+        due(x.count(12), 1);
+        due(x.clash(0, 0), 1);
+        due(x.clash(0, 1), 2);
+        due(x.clash(0, 2), 15);
+    }
+
+    static void point4_theFoeMayBeTown0() {
+        FreeLances x = land(2, 2);
+        x.contract(110, 0, 9, 1);
+        x.safe(0, 0, 9, 20, 0);
+        x.truce(0, 1, 0, 5);
+        x.contract(1, 5, 9, 1);
+        int[][] due = {{0, 1, 9}, {0, 2, 5}};
+        for (int i = 0; i < due.length; i++) {
+            for (int what = 0; what <= 2; what++) {
+                due(x.clash(i, what), due[i][what]);
+            }
+        }
+        due(x.count(12), 2);
+    }
+
+    static void point4_clash3MayBeginOnDay0() {
+        FreeLances x = land(2, 2);
+        x.contract(1, 0, 9, 1);
+        x.contract(110, 0, 9, 1);
+        x.truce(0, 1, 0, 9);
+        x.contract(1, 5, 9, 1);
+        due(x.count(12), 1);
+        due(x.clash(0, 2), 0);
+    }
+
     static void point4_clash3IsOfTwoBondsHoweverManyContractsMakeIt() {
         FreeLances x = truced(101, 18, 30);
         x.contract(101, 16, 17, 1);
@@ -1219,6 +1269,23 @@ final class PointEdges extends Edges {
         due(twiceBehind(2), 2);
         due(twiceBehind(3), 1);
         due(twiceBehind(4), 1);
+    }
+
+    static void point5_theDaysBetweenAreCountedEitherWay() {
+        FreeLances x = land(2, 1);
+        x.company(1, 0, 0);
+        x.road(0, 1, 3);
+        fill(x, 0, 8, 3);
+        until(x, 10);
+        x.muster(1, 0);
+        until(x, 12);
+        x.muster(0, 0);
+        due(x.twice(3, 0, 1), 2);
+        due(x.twice(3, 1, 0), 2);
+        until(x, 13);
+        x.muster(0, 0);
+        due(x.twice(3, 0, 1), 1);
+        due(x.twice(3, 1, 0), 1);
     }
 
     static void point5_mayBeInOneTownOnOneDay() {
@@ -1478,6 +1545,30 @@ final class PointEdges extends Edges {
         due(hired(4, 2, 999, 1, 2, 999, 1, 2, 999, 1, 2, 999, 1, 2, 999, 1), 0);
         due(hired(-1), KIND);
         due(hired(-1, new int[18]), KIND);
+    }
+
+    static void point7_allFiveCompaniesInAllFiveSeasons() {
+        // COMPANY c has c + 1 LANCES, and SEASONS ask for 5, 4, 3, 2, 1: at 30 each the least that is enough.
+        FreeLances x = land(1, 5);
+        for (int company = 0; company < 5; company++) {
+            lances(x, company, company + 1);
+        }
+        fill(x, 0, 32, 5, 999, 30, 4, 999, 30, 3, 999, 30, 2, 999, 30, 1, 999, 30);
+        due(x.hiring(0, -1), 30 * 15 + 50);
+        for (int season = 0; season < 5; season++) {
+            due(x.hiring(0, season), 4 - season);
+        }
+        // At 9 each it is less to keep one with a LANCE too many than to hire another.
+        fill(x, 0, 32, 5, 999, 9, 5, 999, 9, 4, 999, 9, 5, 999, 9, 1, 999, 9);
+        due(x.hiring(0, -1), 9 * 20 + 10 + 9 + 10);
+        int[] hired = {4, 4, 4, 4, 0};
+        for (int season = 0; season < 5; season++) {
+            due(x.hiring(0, season), hired[season]);
+        }
+        fill(x, 0, 32, 1, 15, 9, 0, 0, 9);
+        due(x.hiring(0, -1), 15);
+        due(x.hiring(0, 0), -1);
+        due(x.hiring(0, 1), -1);
     }
 
     static void point7_theGreatestHiringDoesNotWrap() {

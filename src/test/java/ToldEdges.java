@@ -100,6 +100,118 @@ final class ToldEdges extends Edges {
         same(x, y);
     }
 
+    static void promise51_aMarchGoesOnAsItWas() {
+        FreeLances x = land(4, 1);
+        x.road(0, 2, 3);
+        x.road(2, 3, 9);
+        x.days(1);
+        x.march(0, 2);
+        x.image();
+        x.days(5);
+        x.march(0, 3);
+        due(x.restore(), 1);
+        due(x.about(0, 0), -1);
+        x.days(2);
+        due(x.about(0, 0), -1);
+        x.days(1);
+        due(x.about(0, 0), 2);
+    }
+
+    static void promise51_aMusterIsAsItWas() {
+        FreeLances x = land(2, 2);
+        lances(x, 0, 5);
+        x.road(0, 1, 2);
+        fill(x, 0, 8, 1, 2, 3);
+        fill(x, 1, 8, 4);
+        fill(x, 2, 8, -1, -1, -1);
+        x.muster(0, 0);
+        x.muster(1, 0);
+        x.image();
+        x.march(0, 1);
+        x.days(2);
+        x.muster(0, 1);
+        x.restore();
+        due(x.about(0, 7), 3);
+        due(x.about(0, 8), 0);
+        due(x.twice(3, 0, 1), 1);
+        due(x.twice(4, 0, 1), 0);
+        due(x.muster(0, 2), 3);
+        // The TOWN of a MUSTER, too: COMPANY 0 shows MARK 1 far from there, and that is undone.
+        x = land(2, 2);
+        x.road(0, 1, 2);
+        x.days(5);
+        fill(x, 0, 8, 1);
+        x.muster(0, 0);
+        x.muster(1, 0);
+        x.march(1, 1);
+        x.days(2);
+        x.image();
+        x.muster(1, 0);
+        due(x.twice(1, 0, 1), 1);
+        x.road(0, 1, 1);
+        x.restore();
+        due(x.twice(1, 0, 1), 1);
+    }
+
+    static void promise51_theTownOfAMusterIsAsItWas() {
+        FreeLances x = land(3, 1);
+        x.company(2, 0, 0);
+        x.road(0, 1, 1);
+        fill(x, 0, 8, 1);
+        x.muster(1, 0);
+        x.muster(0, 0);
+        due(x.twice(1, 0, 1), 2);
+        x.image();
+        x.road(1, 2, 1);
+        x.march(0, 1);
+        x.days(2);
+        x.muster(0, 0);
+        due(x.twice(1, 0, 1), 1);
+        x.restore();
+        due(x.twice(1, 0, 1), 2);
+        x.road(0, 2, 1);
+        due(x.twice(1, 0, 1), 2);
+    }
+
+    static void promise51_whatIsLeftOfAdvancesIsAsItWas() {
+        FreeLances x = land(1, 1);
+        x.contract(0, 0, 3000, 1);
+        law(x, 1, 0, "10");
+        x.advance(0, 15);
+        x.image();
+        x.days(60);
+        due(x.bondIs(0, 9), 0);
+        x.restore();
+        due(x.bondIs(0, 9), 15);
+        x.days(30);
+        due(x.bondIs(0, 9), 5);
+    }
+
+    static void promise51_theTapeIsAsItWas() {
+        FreeLances x = new FreeLances();
+        feed(x, "7*");
+        x.image();
+        x.statute(0, 0);
+        feed(x, "1+1+1");
+        x.restore();
+        due(x.count(7), 2);
+        feed(x, "6");
+        due(x.statute(0, 0), 0);
+        due(x.says(0, 0, 0, 0), 42);
+    }
+
+    static void promise51_whatWaitsIsAsItWas() {
+        FreeLances x = court(6, 4, -2, 0);
+        x.image();
+        due(x.judge(), 0);
+        for (int i = 0; i < 6; i++) {
+            x.tell(99);
+        }
+        x.restore();
+        due(x.count(9), 4);
+        due(x.judge(), 0);
+    }
+
     static void promise51_theImageStays() {
         FreeLances x = rich();
         x.restore();
@@ -117,36 +229,49 @@ final class ToldEdges extends Edges {
         x.road(0, 1, 3);
         x.wall(1, 5, 5);
         x.company(1, 5, 5);
-        x.lance(1, 5, 150);
+        lances(x, 1, 4);
         x.take(0, 0);
+        x.winter(1, 0, 9);
         x.winter(1, 1, 9);
         x.contract(1, 0, 100, 5);
         x.renew(0, 5, 0);
         x.advance(0, 5);
-        fill(x, 0, 8, 5);
+        fill(x, 0, 8, 1);
         x.muster(1, 0);
-        law(x, 0, 0, "5+5");
+        law(x, 1, 0, "9999");
         x.tell(5);
-        x.days(5);
+        x.harvest(1, 68);
+        x.days(30);
+        // All that a COMPANY and a BOND can have is not 0: HUNGER, FIT and SICK ones, OWED, and what is left.
+        x.buy(0, 50);
+        x.advance(0, 7);
+        due(x.about(1, 3), 4);
+        due(x.about(1, 4), 1);
+        due(x.about(1, 5), 2);
+        due(x.bondIs(0, 7), 8999);
+        due(x.bondIs(0, 9), 7);
         due(x.restore(), 0);
         FreeLances y = land(1, 1);
         for (FreeLances each : new FreeLances[] {x, y}) {
             each.town(7, 7);
             each.company(1, 7, 7);
-            each.lance(1, 7, 170);
+            each.lance(1, 1, 170);
             each.contract(101, 0, 9, 7);
             fill(each, 0, 8, -1);
-            each.muster(1, 0);
+            due(each.muster(1, 0), 0);
             law(each, 0, 0, "7");
         }
         due(x.far(0, 1), NONE);
+        due(x.winter(1, 0, 0), 0);
         due(x.winter(1, 1, 0), 0);
         due(x.says(0, 0, 0, 0), 7);
-        due(x.renew(0, 1, 0), y.renew(0, 1, 0));
         for (int what = 0; what <= 8; what++) {
             due(x.about(1, what), y.about(1, what));
+        }
+        for (int what = 0; what <= 9; what++) {
             due(x.bondIs(0, what), y.bondIs(0, what));
         }
+        due(x.renew(0, 1, 0), 1);
         for (int what = 0; what <= 4; what++) {
             due(x.townIs(1, what), y.townIs(1, what));
             due(x.lanceIs(0, what), y.lanceIs(0, what));
@@ -266,6 +391,15 @@ final class ToldEdges extends Edges {
         due(judged(LEAST, 2, -1, 0), 4);
         due(judged(GREATEST, GREATEST, 0, 0), 3);
         due(judged(GREATEST, 4, LEAST, LEAST), 4);
+    }
+
+    static void promise53_whatWaitedAheadDoesNotMatter() {
+        FreeLances x = court(9, 9, 9, 9, 9, 9);
+        due(x.judge(), 1);
+        for (int row : new int[] {6, 4, -2, 0}) {
+            x.tell(row);
+        }
+        due(x.judge(), 0);
     }
 
     static void promise53_stateIfThereAreFewerTowns() {

@@ -168,6 +168,17 @@ final class TownEdges extends Edges {
 
     static void promise6_theTownMustStand() {
         range(0, 3, (x, v) -> x.wall(v, 1, 1));
+        due(rich().wall(3, 1, 1), 1);
+    }
+
+    static void promise6_wallAndGunsAreOfThatTownAlone() {
+        FreeLances x = rich();
+        due(x.wall(3, 999, 99), 1);
+        int[][] due = {{100, 0}, {250, 35}, {100, 0}, {999, 99}};
+        for (int town = 0; town < 4; town++) {
+            due(x.townIs(town, 2), due[town][0]);
+            due(x.townIs(town, 3), due[town][1]);
+        }
     }
 
     static void promise6_wallIs0To999() {
