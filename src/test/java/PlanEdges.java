@@ -270,6 +270,17 @@ final class PlanEdges extends Edges {
         x.restore();
         due(x.wintering(-1), 0);
         due(x.wintering(1), 1);
+        // As many TOWNS as COMPANIES, once with one more of both.
+        x = land(2, 2);
+        x.image();
+        x.town(0, 0);
+        x.company(0, 0, 0);
+        for (int town = 0; town < 3; town++) {
+            x.winter(2, town, 500);
+        }
+        due(x.wintering(-1), 500);
+        x.restore();
+        due(x.wintering(-1), 0);
     }
 
     // ---- promise 42: hiring
