@@ -10,6 +10,7 @@ import java.util.Arrays;
 import java.util.List;
 import java.util.Set;
 import java.util.TreeSet;
+import java.util.regex.Matcher;
 import java.util.regex.Pattern;
 
 /** The public face is the document's, and the source keeps to what LANGUAGE.md lets a text search see. */
@@ -27,6 +28,10 @@ public final class FaceTest {
         "voice(int,int,int)", "trace(int)", "sheet(int,int,int)", "put(int,int,int)",
         "move(int,int,int,int,int)", "image()", "restore()", "tell(int)", "judge()", "count(int)", "found(int)",
     };
+
+    /** What the source uses of the library; all of it stands in rule 4. */
+    private static final Set<String> LIBRARY =
+        Set.of("Math.abs", "Math.max", "Math.min", "Integer.bitCount", "System.arraycopy");
 
     private static int wrong = 0;
 
@@ -122,6 +127,10 @@ public final class FaceTest {
         };
         for (String word : ruledOut) {
             check(!Pattern.compile(word).matcher(code).find(), "the source has what " + word + " stands for");
+        }
+        Matcher library = Pattern.compile("\\b(Math|Integer|Long|System|Arrays|String|List)\\.(\\w+)").matcher(code);
+        while (library.find()) {
+            check(LIBRARY.contains(library.group()), library.group() + " is not among what the source may use");
         }
         for (int i = 0; i < source.length(); i++) {
             check(source.charAt(i) < 128, "a sign above 127 stands at " + i);
